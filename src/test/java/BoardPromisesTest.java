@@ -151,6 +151,17 @@ public final class BoardPromisesTest {
         board.end(0);
         Checks.yes("trunk 0 is busy", board.isTrunkBusy(0));
         Checks.yes("trunk 1 is free again", !board.isTrunkBusy(1));
+        // No line stands for a trunk.
+        CordBoard wide = Checks.loaded("board 6 6;trunk 1;trunk 2;trunk 3;trunk 4;user a 0 s 0;user b 1 s 0;"
+                + "user c 2 s 0;user d 3 s 0;user e 4 s 0;user f 5 s 0;");
+        wide.call(5, 4, false);
+        for (int trunk = 0; trunk < 4; trunk++) {
+            Checks.yes("all trunks are free", !wide.isTrunkBusy(trunk));
+            wide.callTrunk(trunk, trunk, false);
+            Checks.same("obstacle", wide.obstacle(1 + trunk), 0);
+            Checks.yes("the trunk is busy", wide.isTrunkBusy(trunk));
+        }
+        Checks.same("free cords", wide.freeCords(), 1);
         for (int wrong : new int[] {-1, 2, 4, Integer.MIN_VALUE, Integer.MAX_VALUE}) {
             Checks.noIndex(board, "isTrunkBusy(" + wrong + ")", () -> board.isTrunkBusy(wrong));
         }

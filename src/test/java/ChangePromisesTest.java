@@ -193,6 +193,26 @@ public final class ChangePromisesTest {
             Checks.same("the state before", Checks.showState(board), states[left + 3]);
         }
         Checks.noState(board, "undo of a discarded change", () -> board.undo());
+        // A call that takes the number of one that was undone has nothing of it.
+        CordBoard again = new CordBoard();
+        again.call(Checks.ANN, Checks.DOT, false);
+        again.callTrunk(Checks.FAY, 0, true);
+        again.end(1);
+        again.undo();
+        again.undo();
+        again.call(Checks.CAL, Checks.ANN, false);
+        Checks.same("its state", again.callState(1), CordBoard.WAITING);
+        Checks.same("its end", again.endTime(1), CordBoard.NONE);
+        Checks.same("its trunk", again.calledTrunk(1), CordBoard.NONE);
+        again.undo();
+        again.undo();
+        again.call(Checks.EVE, Checks.DOT, false);
+        again.call(Checks.EVE, Checks.ANN, false);
+        again.undo();
+        again.undo();
+        again.call(Checks.FAY, Checks.EVE, false);
+        again.call(Checks.ANN, Checks.EVE, true);
+        Checks.same("its listeners", again.listeners(1), 0);
         // What comes after an undo takes the place of what was undone.
         board.waitFor(4);
         String later = Checks.showState(board);

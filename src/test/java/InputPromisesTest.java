@@ -106,6 +106,15 @@ public final class InputPromisesTest {
         Checks.same("changes", board.undoableChanges(), 4);
         Checks.same("restore after load", board.restore(0), 10);
         Checks.same("users after restore", board.subscriberCount(), 6);
+        // Nothing of an earlier script comes into a setup.
+        Checks.play(board, "wait 5;call ann dot;");
+        Checks.load(board, PAIR);
+        Checks.same("clock after a script", board.clock(), 0);
+        Checks.same("calls after a script", board.callCount(), 0);
+        CordBoard owing = Checks.loaded(PAIR + "call a b;end 0;call b a;end 1;");
+        Checks.load(owing, PAIR);
+        Checks.same("bill a after bills", owing.bill(0), 0);
+        Checks.same("bill b after bills", owing.bill(1), 0);
         // Commands of a setup run on the new board.
         Checks.same("load with commands", Checks.load(board, PAIR + "call a b;wait 61;trunk b 0 urgent;end 0;mood a 9;"), 2);
         Checks.same("clock after them", board.clock(), 61);
@@ -121,6 +130,12 @@ public final class InputPromisesTest {
         Checks.loadFails("", 1, 0);
         Checks.loadFails("   ", 1, 3);
         Checks.loadFails("bored 1 1;", 1, 0);
+        Checks.loadFails("hoard 1 1;user a 0 s 5;", 1, 0);
+        Checks.loadFails("boart 1 1;user a 0 s 5;", 1, 0);
+        Checks.loadFails("boards 1 1;user a 0 s 5;", 1, 0);
+        Checks.loadFails("boar 1 1;user a 0 s 5;", 1, 0);
+        Checks.loadFails("board 1 1;drunk 5;user a 0 s 5;", 1, 10);
+        Checks.loadFails("board 1 1;uses a 0 s 5;", 1, 10);
         Checks.loadFails("board", 1, 5);
         Checks.loadFails("board  ", 1, 7);
         Checks.loadFails("board x 1;user a 0 s 5;", 1, 6);
@@ -237,6 +252,12 @@ public final class InputPromisesTest {
         CordBoard board = Checks.loaded(PAIR);
         Checks.playFails(board, ";", 1, 0);
         Checks.playFails(board, "hang 0;", 1, 0);
+        Checks.playFails(board, "gait 5;", 1, 0);
+        Checks.playFails(board, "WAIT 5;", 1, 0);
+        Checks.playFails(board, "calls a b;", 1, 0);
+        Checks.playFails(board, "call a b urgen;", 1, 9);
+        Checks.playFails(board, "call a b;and 0;", 1, 9);
+        Checks.playFails(board, "food a 5;", 1, 0);
         Checks.playFails(board, "board 1 1;", 1, 0);
         Checks.playFails(board, "user c 0 ss 5;", 1, 0);
         Checks.playFails(board, "call", 1, 4);

@@ -72,6 +72,9 @@ public final class SubscriberPromisesTest {
         for (int subscriber = 0; subscriber < 6; subscriber++) {
             Checks.same("the own secret", board.secretsKnown(subscriber), 1 << subscriber);
         }
+        CordBoard quiet = new CordBoard();
+        quiet.call(Checks.EVE, Checks.FAY, false);
+        Checks.same("eve and fay", quiet.secretsKnown(Checks.FAY), 1 << Checks.EVE | 1 << Checks.FAY);
         // Both subscribers and the listeners of both lines know all that the two know.
         board.call(Checks.ANN, Checks.DOT, false);
         int told = 1 << Checks.ANN | 1 << Checks.DOT;
