@@ -1,18 +1,40 @@
-/** Promises 8 to 15: changes, undo, save and restore. */
+/** Promises 8 to 15: changes, undo, save and restore. TermsUndoTest has what they share. */
 public final class ChangePromisesTest {
+    private static final int[] NO_USERS = {-1, 6, 7, 15, 32, Checks.MIN, Checks.MAX};
+    private static final int[] NO_CALLS = {-1, 4, 5, 39, 40, Checks.MIN, Checks.MAX};
+
     private ChangePromisesTest() {
     }
 
     public static void main(String[] args) {
         promise8Call();
+        promise8FirstAndLastUser();
+        promise8Refused();
+        promise8FortyCalls();
         promise9CallTrunk();
-        promise10End();
-        promise10QueueOrder();
+        promise9FirstAndLastTrunk();
+        promise9Refused();
+        promise9FortyCalls();
+        promise10EndsATalkingCall();
+        promise10CancelsAWaitingCall();
+        promise10AnswersHowManyStart();
+        promise10FirstAndLastCall();
+        promise10Refused();
         promise11WaitFor();
+        promise11Refused();
+        promise11LastSecond();
+        promise11StartsNoCall();
         promise12SetCuriosity();
+        promise12MattersLater();
+        promise12Refused();
         promise13Undo();
+        promise13Refused();
         promise14Save();
+        promise14Overwrites();
+        promise14Refused();
         promise15Restore();
+        promise15StateStaysSaved();
+        promise15Refused();
         Checks.end();
     }
 
@@ -20,117 +42,155 @@ public final class ChangePromisesTest {
         CordBoard board = new CordBoard();
         Checks.same("the first call", board.call(Checks.ANN, Checks.DOT, false), 0);
         Checks.same("it starts", board.callState(0), CordBoard.TALKING);
+        Checks.same("its start", board.startTime(0), 0);
+        Checks.same("its caller", board.callerOf(0), Checks.ANN);
+        Checks.same("its other", board.calledSubscriber(0), Checks.DOT);
+        Checks.yes("not urgent", !board.isUrgent(0));
         Checks.same("the second call", board.call(Checks.EVE, Checks.FAY, true), 1);
         Checks.same("it waits", board.callState(1), CordBoard.WAITING);
-        // A call on one line needs no cord, and a new call may pass by those that wait.
-        CordBoard full = Checks.loaded("board 4 1;user a 0 s 0;user b 1 s 0;user c 2 s 0;user d 2 l 0;user e 3 s 0;");
-        full.call(0, 1, false);
-        full.call(2, 4, true);
-        Checks.same("no cord is free", full.callState(1), CordBoard.WAITING);
-        full.call(2, 3, false);
-        Checks.same("none is needed", full.callState(2), CordBoard.TALKING);
-        Checks.same("changes", full.undoableChanges(), 4);
-        for (int wrong : new int[] {-1, 6, Integer.MIN_VALUE, Integer.MAX_VALUE}) {
-            Checks.noIndex(board, "call(" + wrong + ", 0)", () -> board.call(wrong, 0, false));
-            Checks.noIndex(board, "call(0, " + wrong + ")", () -> board.call(0, wrong, false));
-            Checks.noIndex(board, "call(" + wrong + " twice)", () -> board.call(wrong, wrong, true));
+        Checks.yes("urgent", board.isUrgent(1));
+        Checks.same("changes", board.undoableChanges(), 2);
+    }
+
+    private static void promise8FirstAndLastUser() {
+        Checks.same("from 0 to 5", new CordBoard().call(0, 5, false), 0);
+        Checks.same("from 5 to 0", new CordBoard().call(5, 0, false), 0);
+        CordBoard crowd = Checks.loaded(Checks.crowd(15, 2, 9));
+        Checks.same("from 14 to 0", crowd.call(14, 0, false), 0);
+        Checks.same("from 0 to 14", crowd.call(0, 14, false), 1);
+        Checks.same("the last caller", crowd.callerOf(0), 14);
+        Checks.noIndex(() -> Checks.loaded(Checks.crowd(15, 2, 9)), "call(15, 0)", board -> board.call(15, 0, false));
+        Checks.noIndex(() -> Checks.loaded(Checks.crowd(15, 2, 9)), "call(0, 15)", board -> board.call(0, 15, false));
+    }
+
+    private static void promise8Refused() {
+        for (int wrong : NO_USERS) {
+            Checks.noIndex(Checks::used, "call(" + wrong + ", 0)", board -> board.call(wrong, 0, false));
+            Checks.noIndex(Checks::used, "call(0, " + wrong + ")", board -> board.call(0, wrong, false));
+            Checks.noIndex(Checks::used, "call(" + wrong + " twice)", board -> board.call(wrong, wrong, true));
         }
-        Checks.noArgument(board, "call(3, 3)", () -> board.call(3, 3, false));
-        while (board.callCount() < 39) {
-            board.call(0, 1, false);
+        for (int user = 0; user < 6; user++) {
+            int same = user;
+            Checks.noArgument(Checks::used, "call to oneself", board -> board.call(same, same, false));
         }
-        Checks.same("the last call", board.call(1, 0, false), 39);
-        Checks.noState(board, "a 41st call", () -> board.call(1, 0, false));
-        Checks.noArgument(board, "a 41st call to oneself", () -> board.call(1, 1, false));
-        Checks.noIndex(board, "a 41st call to nobody", () -> board.call(1, 6, false));
+    }
+
+    private static void promise8FortyCalls() {
+        Checks.same("the 39th call", Checks.withCalls(38).call(1, 0, false), 38);
+        Checks.same("the 40th call", Checks.withCalls(39).call(1, 0, true), 39);
+        Checks.noState(() -> Checks.withCalls(40), "a 41st call", board -> board.call(1, 0, false));
+        Checks.noArgument(() -> Checks.withCalls(40), "a 41st call to oneself", board -> board.call(1, 1, false));
+        Checks.noIndex(() -> Checks.withCalls(40), "a 41st call to nobody", board -> board.call(1, 2, false));
     }
 
     private static void promise9CallTrunk() {
         CordBoard board = new CordBoard();
         Checks.same("the first call", board.callTrunk(Checks.FAY, 0, true), 0);
         Checks.same("it starts", board.callState(0), CordBoard.TALKING);
-        Checks.same("the trunk is busy", board.isTrunkBusy(0) ? 1 : 0, 1);
-        Checks.same("the line is busy", board.isLineBusy(2) ? 1 : 0, 1);
+        Checks.same("its caller", board.callerOf(0), Checks.FAY);
+        Checks.same("its trunk", board.calledTrunk(0), 0);
+        Checks.yes("urgent", board.isUrgent(0));
+        Checks.yes("the trunk is busy", board.isTrunkBusy(0));
+        Checks.yes("the line is busy", board.isLineBusy(2));
         Checks.same("it takes a cord", board.freeCords(), 1);
         Checks.same("the second call", board.callTrunk(Checks.ANN, 0, false), 1);
         Checks.same("it waits", board.callState(1), CordBoard.WAITING);
-        Checks.same("for the trunk", board.obstacle(1), 2);
+        Checks.yes("not urgent", !board.isUrgent(1));
         Checks.same("changes", board.undoableChanges(), 2);
-        for (int wrong : new int[] {-1, 6, Integer.MIN_VALUE, Integer.MAX_VALUE}) {
-            Checks.noIndex(board, "callTrunk(" + wrong + ", 0)", () -> board.callTrunk(wrong, 0, false));
-        }
-        for (int wrong : new int[] {-1, 1, 4, Integer.MIN_VALUE, Integer.MAX_VALUE}) {
-            Checks.noIndex(board, "callTrunk(0, " + wrong + ")", () -> board.callTrunk(0, wrong, false));
-        }
-        while (board.callCount() < 40) {
-            board.callTrunk(0, 0, false);
-        }
-        Checks.noState(board, "a 41st call", () -> board.callTrunk(1, 0, false));
-        Checks.noIndex(board, "a 41st call to no trunk", () -> board.callTrunk(1, 1, false));
-        CordBoard none = Checks.loaded("board 1 1;user a 0 s 0;");
-        Checks.noIndex(none, "callTrunk without trunks", () -> none.callTrunk(0, 0, false));
     }
 
-    private static void promise10End() {
+    private static CordBoard fourTrunks() {
+        return Checks.loaded("board 2 3;trunk 1;trunk 2;trunk 3;trunk 4;user a 0 s 0;user b 1 l 0;");
+    }
+
+    private static void promise9FirstAndLastTrunk() {
+        CordBoard board = fourTrunks();
+        board.callTrunk(0, 0, false);
+        board.callTrunk(1, 3, false);
+        Checks.same("the first trunk", board.calledTrunk(0), 0);
+        Checks.same("the last trunk", board.calledTrunk(1), 3);
+        Checks.same("both talk", board.talkingCalls(), 2);
+        Checks.noIndex(ChangePromisesTest::fourTrunks, "callTrunk(0, 4)", wrong -> wrong.callTrunk(0, 4, false));
+        Checks.noIndex(ChangePromisesTest::fourTrunks, "callTrunk(2, 3)", wrong -> wrong.callTrunk(2, 3, false));
+        Checks.noIndex(() -> Checks.loaded("board 1 1;user a 0 s 0;"), "callTrunk without trunks",
+                none -> none.callTrunk(0, 0, false));
+    }
+
+    private static void promise9Refused() {
+        for (int wrong : NO_USERS) {
+            Checks.noIndex(Checks::used, "callTrunk(" + wrong + ", 0)", board -> board.callTrunk(wrong, 0, false));
+        }
+        for (int wrong : new int[] {-1, 1, 2, 4, 32, Checks.MIN, Checks.MAX}) {
+            Checks.noIndex(Checks::used, "callTrunk(0, " + wrong + ")", board -> board.callTrunk(0, wrong, true));
+        }
+    }
+
+    private static void promise9FortyCalls() {
+        Checks.same("the 40th call", Checks.withCalls(39).callTrunk(1, 0, true), 39);
+        Checks.noState(() -> Checks.withCalls(40), "a 41st call", board -> board.callTrunk(1, 0, false));
+        Checks.noIndex(() -> Checks.withCalls(40), "a 41st call to no trunk", board -> board.callTrunk(1, 1, false));
+        Checks.noIndex(() -> Checks.withCalls(40), "a 41st call of nobody", board -> board.callTrunk(2, 0, false));
+    }
+
+    private static void promise10EndsATalkingCall() {
         CordBoard board = new CordBoard();
-        Checks.noIndex(board, "end(0) without calls", () -> board.end(0));
         board.call(Checks.ANN, Checks.DOT, false);
-        board.call(Checks.BEA, Checks.CAL, false);
-        board.call(Checks.CAL, Checks.ANN, false);
-        board.call(Checks.EVE, Checks.DOT, false);
         board.waitFor(7);
-        Checks.same("cancel", board.end(2), 0);
-        Checks.same("its state", board.callState(2), CordBoard.CANCELLED);
-        Checks.same("its end", board.endTime(2), 7);
-        Checks.same("its cost", board.bill(Checks.CAL), 0);
-        Checks.same("end", board.end(0), 2);
+        Checks.same("end", board.end(0), 0);
         Checks.same("its state", board.callState(0), CordBoard.ENDED);
-        Checks.same("its cost", board.bill(Checks.ANN), 5);
+        Checks.same("its end", board.endTime(0), 7);
+        Checks.same("the bill of the caller", board.bill(Checks.ANN), 5);
         Checks.same("the bill of the other", board.bill(Checks.DOT), 0);
-        Checks.same("a waiting call starts", board.callState(1), CordBoard.TALKING);
-        Checks.same("another one starts", board.startTime(3), 7);
-        Checks.same("changes", board.undoableChanges(), 7);
-        Checks.noState(board, "end of an ended call", () -> board.end(0));
-        Checks.noState(board, "end of a cancelled call", () -> board.end(2));
-        for (int wrong : new int[] {-1, 4, 40, Integer.MIN_VALUE, Integer.MAX_VALUE}) {
-            Checks.noIndex(board, "end(" + wrong + ")", () -> board.end(wrong));
-        }
-        // The toll counts each minute that was begun, one at least, for the caller.
-        int[] seconds = {0, 1, 60, 61, 120, 121};
-        int[] minutes = {1, 1, 1, 2, 2, 3};
-        for (int index = 0; index < seconds.length; index++) {
-            CordBoard toll = new CordBoard();
-            toll.callTrunk(Checks.BEA, 0, false);
-            if (seconds[index] > 0) {
-                toll.waitFor(seconds[index]);
-            }
-            toll.end(0);
-            Checks.same("the toll of " + seconds[index] + " seconds", toll.bill(Checks.BEA), 20 * minutes[index]);
-        }
+        Checks.same("free cords", board.freeCords(), 2);
+        Checks.yes("line 0 is free", !board.isLineBusy(0));
+        Checks.yes("line 1 is free", !board.isLineBusy(1));
+        Checks.same("changes", board.undoableChanges(), 3);
     }
 
-    private static void promise10QueueOrder() {
-        CordBoard board = Checks.loaded("board 1 1;user a 0 s 0;user b 0 ls 0;user c 0 ll 0;");
-        board.call(0, 1, false);
-        board.call(0, 2, false);
-        board.call(1, 2, true);
-        board.call(1, 0, false);
-        board.call(2, 0, true);
-        int[] order = {0, 2, 4, 1, 3};
-        for (int place = 0; place < order.length; place++) {
-            Checks.same("call " + order[place] + " talks", board.callState(order[place]), CordBoard.TALKING);
-            Checks.same("alone", board.talkingCalls(), 1);
-            Checks.same("its end starts", board.end(order[place]), place < 4 ? 1 : 0);
+    private static void promise10CancelsAWaitingCall() {
+        CordBoard board = new CordBoard();
+        board.call(Checks.ANN, Checks.DOT, false);
+        board.call(Checks.BEA, Checks.CAL, true);
+        board.waitFor(7);
+        Checks.same("cancel", board.end(1), 0);
+        Checks.same("its state", board.callState(1), CordBoard.CANCELLED);
+        Checks.same("its end", board.endTime(1), 7);
+        Checks.same("its start", board.startTime(1), CordBoard.NONE);
+        Checks.same("its cost", board.bill(Checks.BEA), 0);
+        Checks.same("changes", board.undoableChanges(), 4);
+        Checks.same("it does not start any more", board.end(0), 0);
+        Checks.same("its state still", board.callState(1), CordBoard.CANCELLED);
+    }
+
+    private static void promise10AnswersHowManyStart() {
+        CordBoard none = Checks.played(Checks.SETUP, "call ann dot;call fay eve;");
+        Checks.same("one starts", none.end(0), 1);
+        Checks.same("none is left", none.end(1), 0);
+        CordBoard three = Checks.played("board 6 6;trunk 1;user a 0 s 0;user b 1 s 0;user c 0 l 0;user d 1 l 0;"
+                + "user e 2 s 0;", "call a b;call c a;call d b;call b d urgent;trunk e 0;");
+        Checks.same("two start", three.end(0), 2);
+        Checks.same("the urgent one", three.callState(3), CordBoard.TALKING);
+        Checks.same("not the other of its line", three.callState(2), CordBoard.WAITING);
+        Checks.same("it starts later", three.end(3), 1);
+    }
+
+    private static void promise10FirstAndLastCall() {
+        CordBoard board = Checks.withCalls(40);
+        Checks.same("end of the last call", board.end(39), 0);
+        Checks.same("its state", board.callState(39), CordBoard.CANCELLED);
+        Checks.same("end of the first call", board.end(0), 1);
+        Checks.same("its state", board.callState(0), CordBoard.ENDED);
+        Checks.noIndex(() -> Checks.withCalls(40), "end(40)", full -> full.end(40));
+        Checks.noIndex(() -> Checks.withCalls(39), "end(39)", full -> full.end(39));
+        Checks.noIndex(CordBoard::new, "end(0) without calls", none -> none.end(0));
+    }
+
+    private static void promise10Refused() {
+        for (int wrong : NO_CALLS) {
+            Checks.noIndex(Checks::used, "end(" + wrong + ")", board -> board.end(wrong));
         }
-        // An urgent call that cannot start lets others pass.
-        CordBoard busy = Checks.loaded("board 3 3;user a 0 s 0;user b 1 s 0;user c 2 s 0;user d 2 l 0;");
-        busy.call(2, 3, false);
-        busy.call(0, 1, false);
-        busy.call(0, 2, true);
-        busy.call(1, 0, false);
-        Checks.same("end", busy.end(1), 1);
-        Checks.same("the urgent one waits on", busy.callState(2), CordBoard.WAITING);
-        Checks.same("the other one starts", busy.callState(3), CordBoard.TALKING);
+        Checks.noState(Checks::used, "end of an ended call", board -> board.end(0));
+        Checks.noState(Checks::used, "end of a cancelled call", board -> board.end(2));
     }
 
     private static void promise11WaitFor() {
@@ -139,145 +199,174 @@ public final class ChangePromisesTest {
         Checks.same("waitFor(9999)", board.waitFor(9999), 10000);
         Checks.same("clock", board.clock(), 10000);
         Checks.same("changes", board.undoableChanges(), 2);
-        for (int wrong : new int[] {0, -1, 10000, Integer.MIN_VALUE, Integer.MAX_VALUE}) {
-            Checks.noArgument(board, "waitFor(" + wrong + ")", () -> board.waitFor(wrong));
+    }
+
+    private static void promise11Refused() {
+        for (int wrong : new int[] {0, -1, 10000, -9999, Checks.MIN, Checks.MAX}) {
+            Checks.noArgument(Checks::used, "waitFor(" + wrong + ")", board -> board.waitFor(wrong));
         }
-        for (int times = 0; times < 98; times++) {
-            board.waitFor(9999);
-        }
-        board.waitFor(9998);
-        Checks.same("late", board.clock(), 999900);
-        Checks.noState(board, "waitFor(100)", () -> board.waitFor(100));
-        Checks.noState(board, "waitFor(9999)", () -> board.waitFor(9999));
-        Checks.noArgument(board, "waitFor(10000)", () -> board.waitFor(10000));
-        Checks.same("waitFor(99)", board.waitFor(99), 999999);
-        Checks.noState(board, "waitFor(1)", () -> board.waitFor(1));
+    }
+
+    private static void promise11LastSecond() {
+        Checks.same("waitFor(99)", Checks.late(999900).waitFor(99), 999999);
+        Checks.noState(() -> Checks.late(999900), "waitFor(100)", board -> board.waitFor(100));
+        Checks.noState(() -> Checks.late(999900), "waitFor(9999)", board -> board.waitFor(9999));
+        Checks.noArgument(() -> Checks.late(999900), "waitFor(10000)", board -> board.waitFor(10000));
+        Checks.noState(() -> Checks.late(999999), "waitFor(1)", board -> board.waitFor(1));
+        CordBoard board = Checks.late(999999);
+        board.undo();
+        Checks.same("after undo there is time again", board.waitFor(99), 999999);
+    }
+
+    private static void promise11StartsNoCall() {
+        CordBoard board = Checks.used();
+        board.waitFor(9999);
+        Checks.same("the talking call", board.callState(1), CordBoard.TALKING);
+        Checks.same("the waiting call", board.callState(3), CordBoard.WAITING);
     }
 
     private static void promise12SetCuriosity() {
         CordBoard board = new CordBoard();
+        Checks.same("setCuriosity(1, 0)", board.setCuriosity(Checks.BEA, 0), 7);
+        Checks.same("setCuriosity(1, 9)", board.setCuriosity(Checks.BEA, 9), 0);
+        Checks.same("the same again", board.setCuriosity(Checks.BEA, 9), 9);
+        Checks.same("curiosity", board.curiosity(Checks.BEA), 9);
+        Checks.same("the first user", board.setCuriosity(0, 5), 2);
+        Checks.same("the last user", board.setCuriosity(5, 1), 6);
+        Checks.same("others stay", board.curiosity(Checks.CAL), 5);
+        Checks.same("changes", board.undoableChanges(), 5);
+    }
+
+    /** "It matters for calls that start later." */
+    private static void promise12MattersLater() {
+        CordBoard board = new CordBoard();
         board.call(Checks.ANN, Checks.CAL, false);
-        Checks.same("listeners before", board.listeners(0), 1 << Checks.BEA);
-        Checks.same("setCuriosity(1, 4)", board.setCuriosity(Checks.BEA, 4), 7);
-        Checks.same("setCuriosity(1, 0)", board.setCuriosity(Checks.BEA, 0), 4);
-        Checks.same("setCuriosity(4, 9)", board.setCuriosity(Checks.EVE, 9), 9);
+        board.setCuriosity(Checks.BEA, 4);
         Checks.same("listeners of a call that goes on", board.listeners(0), 1 << Checks.BEA);
+        Checks.same("its volume", board.volume(0), 90);
         board.end(0);
         board.call(Checks.ANN, Checks.CAL, false);
         Checks.same("listeners of a later call", board.listeners(1), 0);
-        Checks.same("changes", board.undoableChanges(), 6);
-        for (int wrong : new int[] {-1, 6, Integer.MIN_VALUE, Integer.MAX_VALUE}) {
-            Checks.noIndex(board, "setCuriosity(" + wrong + ", 0)", () -> board.setCuriosity(wrong, 0));
-            Checks.noIndex(board, "setCuriosity(" + wrong + ", 10)", () -> board.setCuriosity(wrong, 10));
+        board.setCuriosity(Checks.BEA, 5);
+        Checks.same("still none", board.listeners(1), 0);
+        Checks.same("bea learns nothing", board.secretsKnown(Checks.BEA), 7);
+    }
+
+    private static void promise12Refused() {
+        for (int wrong : NO_USERS) {
+            Checks.noIndex(Checks::used, "setCuriosity(" + wrong + ", 0)", board -> board.setCuriosity(wrong, 0));
+            Checks.noIndex(Checks::used, "setCuriosity(" + wrong + ", 10)", board -> board.setCuriosity(wrong, 10));
         }
-        for (int wrong : new int[] {-1, 10, Integer.MIN_VALUE, Integer.MAX_VALUE}) {
-            Checks.noArgument(board, "setCuriosity(0, " + wrong + ")", () -> board.setCuriosity(0, wrong));
+        for (int wrong : new int[] {-1, 10, Checks.MIN, Checks.MAX}) {
+            Checks.noArgument(Checks::used, "setCuriosity(0, " + wrong + ")", board -> board.setCuriosity(0, wrong));
+            Checks.noArgument(Checks::used, "setCuriosity(5, " + wrong + ")", board -> board.setCuriosity(5, wrong));
         }
     }
 
     private static void promise13Undo() {
         CordBoard board = new CordBoard();
-        String[] states = new String[12];
-        Runnable[] changes = {() -> board.call(0, 3, true), () -> board.callTrunk(5, 0, false),
-            () -> board.waitFor(70), () -> board.end(0), () -> board.setCuriosity(0, 9), () -> board.end(1),
-            () -> Checks.play(board, "call ann bea;wait 5;"), () -> Checks.load(board, "board 1 1;user x 0 s 1;"),
-            () -> board.waitFor(3), () -> board.restore(0), () -> Checks.play(board, "")};
-        board.save(0);
-        for (int index = 0; index < changes.length; index++) {
-            states[index] = Checks.showState(board);
-            changes[index].run();
-            Checks.same("changes", board.undoableChanges(), Math.min(8, index + 1));
-        }
-        for (int left = 7; left >= 0; left--) {
-            Checks.same("undo", board.undo(), left);
-            Checks.same("the state before", Checks.showState(board), states[left + 3]);
-        }
-        Checks.noState(board, "undo of a discarded change", () -> board.undo());
-        // A call that takes the number of one that was undone has nothing of it.
-        CordBoard again = new CordBoard();
-        again.call(Checks.ANN, Checks.DOT, false);
-        again.callTrunk(Checks.FAY, 0, true);
-        again.end(1);
-        again.undo();
-        again.undo();
-        again.call(Checks.CAL, Checks.ANN, false);
-        Checks.same("its state", again.callState(1), CordBoard.WAITING);
-        Checks.same("its end", again.endTime(1), CordBoard.NONE);
-        Checks.same("its trunk", again.calledTrunk(1), CordBoard.NONE);
-        again.undo();
-        again.undo();
-        again.call(Checks.EVE, Checks.DOT, false);
-        again.call(Checks.EVE, Checks.ANN, false);
-        again.undo();
-        again.undo();
-        again.call(Checks.FAY, Checks.EVE, false);
-        again.call(Checks.ANN, Checks.EVE, true);
-        Checks.same("its listeners", again.listeners(1), 0);
-        // What comes after an undo takes the place of what was undone.
-        board.waitFor(4);
-        String later = Checks.showState(board);
         board.waitFor(5);
-        Checks.same("undo again", board.undo(), 1);
-        Checks.same("the state", Checks.showState(board), later);
-        // Input, error, output and saved states stay as they are.
-        CordBoard other = new CordBoard();
-        other.waitFor(5);
-        other.call(0, 1, false);
-        other.writeCalls();
-        Checks.load(other, "board 0 1;");
-        other.save(1);
-        Checks.type(other, "wait 7;");
-        other.undo();
-        Checks.same("the code", other.errorCode(), 2);
-        Checks.same("the offset", other.errorOffset(), 6);
-        Checks.same("the output", other.outputByte(0), 'a');
-        Checks.same("the input", Checks.inputLength(other), 7);
-        Checks.same("the saved state", other.restore(1), 5);
-        Checks.same("with its call", other.callCount(), 1);
+        board.call(Checks.ANN, Checks.DOT, false);
+        board.call(Checks.BEA, Checks.DOT, false);
+        board.end(0);
+        Checks.same("undo of end", board.undo(), 3);
+        Checks.same("it talks again", board.callState(0), CordBoard.TALKING);
+        Checks.same("the other waits again", board.callState(1), CordBoard.WAITING);
+        Checks.same("no bill", board.bill(Checks.ANN), 0);
+        Checks.same("undo of call", board.undo(), 2);
+        Checks.same("undo of call", board.undo(), 1);
+        Checks.same("secrets", board.secretsKnown(Checks.DOT), 1 << Checks.DOT);
+        Checks.same("undo of waitFor", board.undo(), 0);
+        Checks.same("the first state", Checks.show(board), Checks.show(new CordBoard()));
+    }
+
+    private static void promise13Refused() {
+        Checks.noState(CordBoard::new, "undo of nothing", board -> board.undo());
+        Checks.noState(ChangePromisesTest::undone, "undo of an undone change", board -> board.undo());
+    }
+
+    private static CordBoard undone() {
+        CordBoard board = new CordBoard();
+        board.waitFor(5);
+        board.save(0);
+        board.undo();
+        return board;
     }
 
     private static void promise14Save() {
         CordBoard board = new CordBoard();
+        Checks.same("save(0) at first", board.save(0), 0);
         board.waitFor(9);
         Checks.same("save(0)", board.save(0), 9);
         board.waitFor(1);
         Checks.same("save(1)", board.save(1), 10);
-        board.waitFor(1);
-        Checks.same("no change", board.undoableChanges(), 3);
-        Checks.same("save(1) again", board.save(1), 11);
-        Checks.same("slot 0", board.restore(0), 9);
-        Checks.same("slot 1", board.restore(1), 11);
-        for (int wrong : new int[] {-1, 2, Integer.MIN_VALUE, Integer.MAX_VALUE}) {
-            Checks.noArgument(board, "save(" + wrong + ")", () -> board.save(wrong));
+        Checks.same("it is no change", board.undoableChanges(), 2);
+        Checks.same("at the end of the clock", Checks.late(999999).save(1), 999999);
+    }
+
+    /** "overwrites what was saved there" */
+    private static void promise14Overwrites() {
+        CordBoard board = new CordBoard();
+        board.call(Checks.ANN, Checks.DOT, false);
+        board.save(0);
+        board.save(1);
+        board.end(0);
+        board.waitFor(3);
+        board.save(1);
+        Checks.same("slot 0", board.restore(0), 0);
+        Checks.same("its call", board.callState(0), CordBoard.TALKING);
+        Checks.same("slot 1", board.restore(1), 3);
+        Checks.same("its call", board.callState(0), CordBoard.ENDED);
+        Checks.load(board, Checks.crowd(15, 6, 9));
+        board.save(0);
+        Checks.load(board, Checks.SETUP);
+        board.restore(0);
+        Checks.same("a larger board", Checks.show(board), Checks.show(Checks.loaded(Checks.crowd(15, 6, 9))));
+    }
+
+    private static void promise14Refused() {
+        for (int wrong : new int[] {-1, 2, 3, Checks.MIN, Checks.MAX}) {
+            Checks.noArgument(Checks::used, "save(" + wrong + ")", board -> board.save(wrong));
         }
     }
 
     private static void promise15Restore() {
+        CordBoard board = Checks.used();
+        board.save(0);
+        board.end(1);
+        board.setCuriosity(0, 9);
+        Checks.same("restore(0)", board.restore(0), 115);
+        Checks.same("the state", Checks.show(board), Checks.show(Checks.used()));
+        Checks.same("restore(1)", board.restore(1), 0);
+        Checks.same("its calls", board.callCount(), 2);
+        board.undo();
+        Checks.same("undo of restore", Checks.show(board), Checks.show(Checks.used()));
+    }
+
+    /** "The state stays saved." */
+    private static void promise15StateStaysSaved() {
         CordBoard board = new CordBoard();
-        Checks.noState(board, "restore(0)", () -> board.restore(0));
-        board.call(0, 3, false);
-        board.call(1, 2, true);
-        board.callTrunk(5, 0, true);
+        board.call(Checks.ANN, Checks.DOT, false);
         board.waitFor(30);
         board.save(1);
-        String saved = Checks.showState(board);
-        board.end(0);
-        board.setCuriosity(0, 9);
-        Checks.same("restore(1)", board.restore(1), 30);
-        Checks.same("the state", Checks.showState(board), saved);
-        Checks.same("it is a change", board.undoableChanges(), 7);
-        board.end(0);
-        board.waitFor(1);
-        Checks.same("the state stays saved", board.restore(1), 30);
-        Checks.same("as it was", Checks.showState(board), saved);
-        board.undo();
-        Checks.same("undo of restore", board.clock(), 31);
-        Checks.noState(board, "restore(0)", () -> board.restore(0));
-        for (int wrong : new int[] {-1, 2, Integer.MIN_VALUE, Integer.MAX_VALUE}) {
-            Checks.noArgument(board, "restore(" + wrong + ")", () -> board.restore(wrong));
+        for (int round = 0; round < 3; round++) {
+            board.end(0);
+            board.waitFor(1);
+            board.setCuriosity(Checks.ANN, 9);
+            Checks.same("restore(1)", board.restore(1), 30);
+            Checks.same("its call", board.callState(0), CordBoard.TALKING);
+            Checks.same("its bill", board.bill(Checks.ANN), 0);
+            Checks.same("its curiosity", board.curiosity(Checks.ANN), 2);
         }
-        Checks.load(board, "board 1 1;user x 0 s 1;");
-        Checks.same("load keeps what is saved", board.restore(1), 30);
-        Checks.same("as it was", Checks.showState(board), saved);
+    }
+
+    private static void promise15Refused() {
+        for (int wrong : new int[] {-1, 2, 3, Checks.MIN, Checks.MAX}) {
+            Checks.noArgument(Checks::used, "restore(" + wrong + ")", board -> board.restore(wrong));
+            Checks.noArgument(CordBoard::new, "restore(" + wrong + ")", board -> board.restore(wrong));
+        }
+        Checks.noState(CordBoard::new, "restore(0)", board -> board.restore(0));
+        Checks.noState(CordBoard::new, "restore(1)", board -> board.restore(1));
+        Checks.noState(Checks::used, "restore of the other slot", board -> board.restore(0));
     }
 }

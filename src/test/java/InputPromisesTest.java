@@ -1,41 +1,50 @@
-/** Promises 1 to 7: a new object and the texts. */
+/** Promises 1 to 7: a new object, the input buffer, load and play, and the reported error. TermsTextTest has the texts. */
 public final class InputPromisesTest {
-    private static final String HEAD = "board 2 1;user a 0 s 5;";
-    private static final String PAIR = "board 1 1;trunk 9;user a 0 s 5;user b 0 l 5;";
+    private static final int SPACES = 0x20202020;
 
     private InputPromisesTest() {
     }
 
     public static void main(String[] args) {
         promise1NewObject();
-        promise2Append();
+        promise1FirstState();
+        promise1ObjectsAreApart();
+        promise2AppendInOrder();
+        promise2AppendAnyByte();
+        promise2AppendUpTo700();
+        promise2AppendBeyond700();
         promise3TruncateInput();
-        promise4Load();
-        promise4SetupTokens();
-        promise4SetupRanges();
-        promise4SetupNames();
-        promise4SetupLimits();
-        promise5Play();
-        promise5CommandErrors();
-        promise5CommandLimits();
-        promise6And7Errors();
+        promise3TruncateEmptyInput();
+        promise3TruncateFullInput();
+        promise3AppendBehindWhatIsLeft();
+        promise4LoadAnswersTheUsers();
+        promise4LoadEmptiesTheBuffer();
+        promise4LoadReplacesTheState();
+        promise4LoadBeginsAnew();
+        promise4NothingIsLeftOfEarlierCalls();
+        promise4LoadRunsCommands();
+        promise4LoadWithAnError();
+        promise5PlayAnswersTheCommands();
+        promise5PlayEmptiesTheBuffer();
+        promise5PlayIsASingleChange();
+        promise5PlayWithAnError();
+        promise6ErrorCode();
+        promise7ErrorOffset();
+        promise6And7StayForOtherCalls();
         Checks.end();
     }
 
     private static void promise1NewObject() {
         CordBoard board = new CordBoard();
-        Checks.same("a new object", Checks.showState(board), Checks.showState(Checks.loaded(Checks.SETUP)));
-        Checks.same("users", board.subscriberCount(), 6);
-        Checks.same("name 5", Checks.nameOf(board, 5), "fay");
-        Checks.same("changes", board.undoableChanges(), 0);
-        Checks.same("code", board.errorCode(), 0);
-        Checks.same("offset", board.errorOffset(), CordBoard.NONE);
-        Checks.same("output", board.outputByte(0), CordBoard.NONE);
-        Checks.same("input", board.truncateInput(0), 0);
-        Checks.noArgument(board, "truncateInput(1) of a new object", () -> board.truncateInput(1));
-        Checks.noState(board, "undo of a new object", () -> board.undo());
-        Checks.noState(board, "restore(0) of a new object", () -> board.restore(0));
-        Checks.noState(board, "restore(1) of a new object", () -> board.restore(1));
+        Checks.same("errorCode", board.errorCode(), 0);
+        Checks.same("errorOffset", board.errorOffset(), CordBoard.NONE);
+        Checks.same("undoableChanges", board.undoableChanges(), 0);
+        Checks.same("outputByte", board.outputByte(0), CordBoard.NONE);
+        Checks.same("the input", Checks.inputLength(board), 0);
+        Checks.noArgument(CordBoard::new, "truncateInput(1) of a new object", made -> made.truncateInput(1));
+        Checks.noState(CordBoard::new, "undo of a new object", made -> made.undo());
+        Checks.noState(CordBoard::new, "restore(0) of a new object", made -> made.restore(0));
+        Checks.noState(CordBoard::new, "restore(1) of a new object", made -> made.restore(1));
         Checks.same("NONE", CordBoard.NONE, -1);
         Checks.same("WAITING", CordBoard.WAITING, 0);
         Checks.same("TALKING", CordBoard.TALKING, 1);
@@ -43,307 +52,357 @@ public final class InputPromisesTest {
         Checks.same("CANCELLED", CordBoard.CANCELLED, 3);
     }
 
-    private static void promise2Append() {
+    private static void promise1FirstState() {
         CordBoard board = new CordBoard();
-        for (int length = 20; length <= 680; length += 20) {
-            Checks.same("append", board.append(0x20202020, 0x20202020, 0x20202020, 0x20202020, 0x20202020), length);
+        String[] names = {"ann", "bea", "cal", "dot", "eve", "fay"};
+        int[] lines = {0, 0, 0, 1, 1, 2};
+        int[] codes = {4, 5, 3, 2, 7, 10};
+        int[] curiosities = {2, 7, 5, 0, 9, 6};
+        Checks.same("users", board.subscriberCount(), names.length);
+        for (int user = 0; user < names.length; user++) {
+            Checks.same("name", Checks.nameOf(board, user), names[user]);
+            Checks.same("line", board.lineOf(user), lines[user]);
+            Checks.same("code", board.whoAnswers(lines[user], codes[user]), user);
+            Checks.same("curiosity", board.curiosity(user), curiosities[user]);
+            Checks.same("bill", board.bill(user), 0);
+            Checks.same("secrets", board.secretsKnown(user), 1 << user);
         }
-        board.truncateInput(679);
-        Checks.same("append up to 699", board.append(0, 0, 0, 0, 0), 699);
-        board.truncateInput(681);
-        Checks.same("append beyond 700", board.append(0, 0, 0, 0, 0), CordBoard.NONE);
-        Checks.same("the length after it", Checks.inputLength(board), 681);
-        board.truncateInput(680);
-        Checks.same("append up to 700", board.append(0, 0, 0, 0, 0x20202020), 700);
-        Checks.same("append to a full buffer", board.append(0, 0, 0, 0, 0), CordBoard.NONE);
-        Checks.same("the full length", board.truncateInput(700), 700);
-        // The bytes come in the order of the parameters, the most significant byte first.
-        board.truncateInput(0);
-        board.append(0x77616974, 0x20313233, 0x343b7761, 0x69742035, 0x3b202020);
+        Checks.same("lines", board.lineCount(), 3);
+        Checks.same("cords", board.cordCount(), 2);
+        Checks.same("trunks", board.trunkCount(), 1);
+        Checks.same("toll", board.toll(0), 20);
+        Checks.same("clock", board.clock(), 0);
+        Checks.same("calls", board.callCount(), 0);
+        Checks.same("as load makes it", Checks.show(board), Checks.show(Checks.loaded(Checks.SETUP)));
+    }
+
+    private static void promise1ObjectsAreApart() {
+        CordBoard one = Checks.used();
+        Checks.type(one, "wait 5;");
+        CordBoard two = new CordBoard();
+        Checks.same("a second object", Checks.everything(two), Checks.everything(new CordBoard()));
+        two.waitFor(3);
+        Checks.same("the first object", one.clock(), 115);
+        Checks.same("its input", one.truncateInput(7), 7);
+    }
+
+    /** "the four bytes of each parameter, the most significant byte first" */
+    private static void promise2AppendInOrder() {
+        CordBoard board = new CordBoard();
+        Checks.same("append", board.append(0x77616974, 0x20313233, 0x343b7761, 0x69742035, 0x3b202020), 20);
         Checks.same("play of wait 1234;wait 5;", board.play(), 2);
         Checks.same("the clock", board.clock(), 1239);
-        // A byte above 127 is a byte like others and belongs to no token.
-        board.append(0x20202080, 0xffffffff, -1, -1, -1);
-        Checks.same("play of strange bytes", board.play(), CordBoard.NONE);
-        Checks.same("its code", board.errorCode(), 1);
-        Checks.same("its offset", board.errorOffset(), 3);
     }
 
-    private static void promise3TruncateInput() {
+    private static void promise2AppendAnyByte() {
+        // Bytes above 127 belong to no token; no byte spoils those before it.
+        int[] fours = {0x20202080, 0x202020ff, 0x202020e1, 0x20202000, 0x2020207f};
+        for (int four : fours) {
+            CordBoard board = new CordBoard();
+            board.append(SPACES, SPACES, SPACES, four, -1);
+            Checks.same("play of strange bytes", board.play(), CordBoard.NONE);
+            Checks.same("the code", board.errorCode(), 1);
+            Checks.same("the offset", board.errorOffset(), 15);
+        }
+        for (int place = 0; place < 20; place++) {
+            int[] words = {SPACES, SPACES, SPACES, SPACES, SPACES};
+            words[place / 4] ^= 0x80 << 8 * (3 - place % 4);
+            CordBoard board = new CordBoard();
+            board.append(words[0], words[1], words[2], words[3], words[4]);
+            board.play();
+            Checks.same("the offset of byte " + place, board.errorOffset(), place);
+        }
+    }
+
+    private static CordBoard filled(int length) {
+        CordBoard board = new CordBoard();
+        while (board.append(SPACES, SPACES, SPACES, SPACES, SPACES) != CordBoard.NONE) {
+            continue;
+        }
+        board.truncateInput(length);
+        return board;
+    }
+
+    private static void promise2AppendUpTo700() {
+        CordBoard board = new CordBoard();
+        for (int length = 20; length <= 700; length += 20) {
+            Checks.same("append", board.append(SPACES, SPACES, SPACES, SPACES, SPACES), length);
+        }
+        for (int length : new int[] {0, 1, 19, 20, 679, 680}) {
+            Checks.same("append to " + length, filled(length).append(1, 2, 3, 4, 5), length + 20);
+        }
+    }
+
+    /** "NONE, with no change, if it would exceed 700" */
+    private static void promise2AppendBeyond700() {
+        for (int length : new int[] {681, 682, 690, 699, 700}) {
+            CordBoard board = filled(length);
+            Checks.same("append to " + length, board.append(-1, -1, -1, -1, -1), CordBoard.NONE);
+            Checks.same("the length", board.truncateInput(length), length);
+            Checks.same("the bytes are spaces still", board.play(), 0);
+            Checks.noArgument(() -> overfilled(length), "a longer input", made -> made.truncateInput(length + 1));
+        }
+    }
+
+    private static CordBoard overfilled(int length) {
+        CordBoard board = filled(length);
+        board.append(-1, -1, -1, -1, -1);
+        return board;
+    }
+
+    private static CordBoard typed() {
         CordBoard board = new CordBoard();
         Checks.type(board, "wait 5;wait 6;junk");
-        Checks.noArgument(board, "truncateInput(19)", () -> board.truncateInput(19));
-        for (int length : Checks.WRONG) {
-            Checks.noArgument(board, "truncateInput(" + length + ")", () -> board.truncateInput(length));
-        }
-        Checks.same("truncateInput(18)", board.truncateInput(18), 18);
-        Checks.same("truncateInput(14)", board.truncateInput(14), 14);
-        Checks.same("truncateInput(7)", board.truncateInput(7), 7);
-        Checks.noArgument(board, "truncateInput(8)", () -> board.truncateInput(8));
-        Checks.same("play of the rest", board.play(), 1);
-        Checks.same("clock", board.clock(), 5);
-        Checks.same("truncateInput(0)", board.truncateInput(0), 0);
-        Checks.same("changes", board.undoableChanges(), 1);
+        return board;
     }
 
-    private static void promise4Load() {
-        CordBoard board = new CordBoard();
-        board.call(0, 1, false);
-        board.waitFor(10);
-        board.end(0);
-        board.save(0);
-        Checks.same("load", Checks.load(board, "board 6 5;trunk 1;trunk 99;user urgent 5 sslls 0;user a 0 l 9;"), 2);
-        Checks.same("the buffer", Checks.inputLength(board), 0);
+    /** "the new length, 0 to the current length" */
+    private static void promise3TruncateInput() {
+        for (int length : new int[] {-1, 19, 20, 700, 701, Checks.MIN, Checks.MAX}) {
+            Checks.noArgument(InputPromisesTest::typed, "truncateInput(" + length + ")", made -> made.truncateInput(length));
+        }
+        CordBoard board = typed();
+        Checks.same("the current length", board.truncateInput(18), 18);
+        Checks.same("one less", board.truncateInput(17), 17);
+        Checks.same("two commands", board.truncateInput(14), 14);
+        Checks.same("one command", board.truncateInput(7), 7);
+        Checks.same("play of the rest", board.play(), 1);
+        Checks.same("the clock", board.clock(), 5);
+        Checks.same("changes", board.undoableChanges(), 1);
+        Checks.same("nothing is left", typed().truncateInput(0), 0);
+    }
+
+    private static void promise3TruncateEmptyInput() {
+        Checks.same("truncateInput(0) of nothing", new CordBoard().truncateInput(0), 0);
+        Checks.noArgument(CordBoard::new, "truncateInput(1) of nothing", made -> made.truncateInput(1));
+        Checks.noArgument(CordBoard::new, "truncateInput(-1) of nothing", made -> made.truncateInput(-1));
+    }
+
+    private static void promise3TruncateFullInput() {
+        Checks.same("truncateInput(700)", filled(700).truncateInput(700), 700);
+        Checks.same("truncateInput(699)", filled(700).truncateInput(699), 699);
+        Checks.noArgument(() -> filled(700), "truncateInput(701)", made -> made.truncateInput(701));
+        Checks.noArgument(() -> filled(699), "truncateInput(700)", made -> made.truncateInput(700));
+    }
+
+    private static void promise3AppendBehindWhatIsLeft() {
+        CordBoard board = typed();
+        board.truncateInput(5);
+        Checks.same("append", board.append(0x37303b20, SPACES, SPACES, SPACES, SPACES), 25);
+        Checks.same("play of wait 70;", board.play(), 1);
+        Checks.same("the clock", board.clock(), 70);
+    }
+
+    /** "Returns the number of subscribers" */
+    private static void promise4LoadAnswersTheUsers() {
+        Checks.loads("board 1 1;user a 0 s 0;", 1);
+        Checks.loads(Checks.SETUP, 6);
+        Checks.loads(Checks.crowd(14, 1, 0), 14);
+        Checks.loads(Checks.crowd(15, 6, 0), 15);
+    }
+
+    /** "empties the buffer in any case" */
+    private static void promise4LoadEmptiesTheBuffer() {
+        for (String text : new String[] {Checks.PAIR, "board", "", "$", Checks.repeat(" ", 700)}) {
+            CordBoard board = new CordBoard();
+            Checks.load(board, text);
+            Checks.same("the buffer after load of " + text, Checks.inputLength(board), 0);
+            Checks.same("a second load", board.load(), CordBoard.NONE);
+            Checks.same("its code", board.errorCode(), 1);
+            Checks.same("its offset", board.errorOffset(), 0);
+        }
+    }
+
+    /** "Without an error the state is replaced" */
+    private static void promise4LoadReplacesTheState() {
+        CordBoard board = Checks.used();
+        Checks.load(board, "board 6 5;trunk 1;trunk 99;user urgent 5 sslls 0;user a 0 l 9;");
         Checks.same("lines", board.lineCount(), 6);
         Checks.same("cords", board.cordCount(), 5);
         Checks.same("trunks", board.trunkCount(), 2);
         Checks.same("toll 1", board.toll(1), 99);
-        Checks.same("clock", board.clock(), 0);
-        Checks.same("bill", board.bill(0), 0);
-        Checks.same("calls", board.callCount(), 0);
-        Checks.same("secrets", board.secretsKnown(1), 2);
+        Checks.same("users", board.subscriberCount(), 2);
         Checks.same("name", Checks.nameOf(board, 0), "urgent");
-        Checks.same("changes", board.undoableChanges(), 4);
-        Checks.same("restore after load", board.restore(0), 10);
-        Checks.same("users after restore", board.subscriberCount(), 6);
-        // Nothing of an earlier script comes into a setup.
-        Checks.play(board, "wait 5;call ann dot;");
-        Checks.load(board, PAIR);
-        Checks.same("clock after a script", board.clock(), 0);
-        Checks.same("calls after a script", board.callCount(), 0);
-        CordBoard owing = Checks.loaded(PAIR + "call a b;end 0;call b a;end 1;");
-        Checks.load(owing, PAIR);
-        Checks.same("bill a after bills", owing.bill(0), 0);
-        Checks.same("bill b after bills", owing.bill(1), 0);
-        // Commands of a setup run on the new board.
-        Checks.same("load with commands", Checks.load(board, PAIR + "call a b;wait 61;trunk b 0 urgent;end 0;mood a 9;"), 2);
-        Checks.same("clock after them", board.clock(), 61);
+        Checks.same("line", board.lineOf(0), 5);
+        Checks.same("code", board.whoAnswers(5, 38), 0);
+        Checks.same("curiosity", board.curiosity(1), 9);
+        Checks.same("it is a change", board.undoableChanges(), 8);
+        Checks.load(board, "board 1 1;user b 0 s 5;");
+        Checks.same("fewer lines", board.lineCount(), 1);
+        Checks.same("fewer trunks", board.trunkCount(), 0);
+        Checks.same("fewer users", board.subscriberCount(), 1);
+        Checks.same("the old rings are gone", board.whoAnswers(0, 3), CordBoard.NONE);
+    }
+
+    /** "before the first command the clock and all bills are 0, and there are no calls" */
+    private static void promise4LoadBeginsAnew() {
+        CordBoard board = Checks.used();
+        Checks.same("the bill before", board.bill(Checks.ANN), 5);
+        Checks.load(board, Checks.SETUP);
+        Checks.same("the state", Checks.show(board), Checks.show(new CordBoard()));
+        // Nothing of an earlier text comes into a setup either.
+        Checks.play(board, "wait 5;call ann dot;end 0;call cal dot;");
+        Checks.load(board, Checks.SETUP);
+        Checks.same("the state after a script", Checks.show(board), Checks.show(new CordBoard()));
+        Checks.play(board, "wait 5;call ann dot;end 0;call");
+        Checks.load(board, Checks.SETUP);
+        Checks.same("the state after a wrong script", Checks.show(board), Checks.show(new CordBoard()));
+    }
+
+    /** "and there are no calls": those that come have nothing of the calls before, in each state that these had. */
+    private static void promise4NothingIsLeftOfEarlierCalls() {
+        String[] scripts = {"end 1;end 3;", "trunk cal 0 urgent;call eve fay;", "", "end 1;end 3;end 9;"};
+        for (String script : scripts) {
+            CordBoard board = Checks.used();
+            Checks.play(board, script);
+            Checks.load(board, Checks.SETUP);
+            requestFive(board);
+            CordBoard due = new CordBoard();
+            requestFive(due);
+            Checks.same("calls after load and " + script, Checks.show(board), Checks.show(due));
+            Checks.same("the second call", board.callState(1), CordBoard.WAITING);
+            Checks.same("its listeners", board.listeners(1), 0);
+            Checks.same("its volume", board.volume(1), 100);
+            Checks.same("its end", board.endTime(1), CordBoard.NONE);
+        }
+    }
+
+    private static void requestFive(CordBoard board) {
+        board.call(Checks.ANN, Checks.BEA, false);
+        for (int number = 1; number < 5; number++) {
+            board.call(Checks.CAL, Checks.ANN, false);
+        }
+    }
+
+    private static void promise4LoadRunsCommands() {
+        CordBoard board = Checks.loaded(Checks.PAIR + "call a b;wait 61;trunk b 0 urgent;end 0;mood a 9;");
+        Checks.same("clock", board.clock(), 61);
         Checks.same("call 0", board.callState(0), CordBoard.ENDED);
         Checks.same("call 1", board.callState(1), CordBoard.TALKING);
-        Checks.same("urgent", board.isUrgent(1) ? 1 : 0, 1);
+        Checks.yes("urgent", board.isUrgent(1));
         Checks.same("start", board.startTime(1), 61);
-        Checks.same("mood", board.curiosity(0), 9);
-        Checks.same("bill a", board.bill(0), 5);
+        Checks.same("curiosity", board.curiosity(0), 9);
+        Checks.same("bill", board.bill(0), 5);
+        Checks.same("a single change", board.undoableChanges(), 1);
+        board.undo();
+        Checks.same("undo of load", Checks.show(board), Checks.show(new CordBoard()));
     }
 
-    private static void promise4SetupTokens() {
+    /** "With an error the state does not change." */
+    private static void promise4LoadWithAnError() {
+        Checks.loadFails("board 1 1;user a 0 s 5;user b 0 l", 1, 33);
+        Checks.loadFails(Checks.PAIR + "call a b;wait 5;end 0;end 0;", 7, 71);
         Checks.loadFails("", 1, 0);
-        Checks.loadFails("   ", 1, 3);
-        Checks.loadFails("bored 1 1;", 1, 0);
-        Checks.loadFails("hoard 1 1;user a 0 s 5;", 1, 0);
-        Checks.loadFails("boart 1 1;user a 0 s 5;", 1, 0);
-        Checks.loadFails("boards 1 1;user a 0 s 5;", 1, 0);
-        Checks.loadFails("boar 1 1;user a 0 s 5;", 1, 0);
-        Checks.loadFails("board 1 1;drunk 5;user a 0 s 5;", 1, 10);
-        Checks.loadFails("board 1 1;uses a 0 s 5;", 1, 10);
-        Checks.loadFails("board", 1, 5);
-        Checks.loadFails("board  ", 1, 7);
-        Checks.loadFails("board x 1;user a 0 s 5;", 1, 6);
-        Checks.loadFails("board 1;user a 0 s 5;", 1, 7);
-        Checks.loadFails("board 1 1 user a 0 s 5;", 1, 10);
-        Checks.loadFails("board 1 1;", 1, 10);
-        Checks.loadFails("board 1 1;trunk 5;", 1, 18);
-        Checks.loadFails("board 1 1;trunk a;user a 0 s 5;", 1, 16);
-        Checks.loadFails("board 1 1;wait 5;", 1, 10);
-        Checks.loadFails("board 1 1;;user a 0 s 5;", 1, 10);
-        Checks.loadFails("Board 1 1;user a 0 s 5;", 1, 0);
-        Checks.loadFails("board 1 1;user a 0 s 5", 1, 22);
-        Checks.loadFails("board 1 1;user a 0 s 5,", 1, 22);
-        Checks.loadFails("board 1 1;user a 0 s ;", 1, 21);
-        Checks.loadFails("board 1 1;user a 0 5;", 1, 19);
-        Checks.loadFails("board 1 1;user a s 5;", 1, 17);
-        Checks.loadFails("board 1 1;user 0 0 s 5;", 1, 15);
-        Checks.loadFails("board 1 1;user ab$ 0 s 5;", 1, 17);
-        Checks.loadFails("board 1 1;user a 0 s 5;$", 1, 23);
-        Checks.loadFails("board 1 -1;user a 0 s 5;", 1, 8);
-        Checks.loadFails("board\t1 1;user a 0 s 5;", 1, 5);
-        Checks.loadFails(HEAD + "trunk 5;", 1, 29);
-        Checks.loadFails(HEAD + "wait 5;user b 0 l 5;", 1, 30);
-        Checks.loadFails(HEAD + "user b 0 sa 5;", 1, 32);
-        Checks.loadFails(HEAD + "user b 0 ssssss 5;", 1, 32);
-        Checks.loadFails(HEAD + "user b 0 lsslss 5;", 1, 32);
-        Checks.same("spaces only where needed", Checks.load(new CordBoard(), "board1 1;trunk5;user a0s5;user b0l0;wait5;call a b;"), 2);
-        Checks.same("spaces everywhere", Checks.load(new CordBoard(), "  board  1  1  ; user  a  0  s  5  ;  "), 1);
-        Checks.same("leading zeros", Checks.load(new CordBoard(), "board 0000000000000000000001 06;user a 00 s 009;"), 1);
     }
 
-    private static void promise4SetupRanges() {
-        Checks.loadFails("board 0 1;", 2, 6);
-        Checks.loadFails("board 7 1;", 2, 6);
-        Checks.loadFails("board 1 0;", 2, 8);
-        Checks.loadFails("board 1 7;", 2, 8);
-        Checks.loadFails("board 4294967297 1;", 2, 6);
-        Checks.loadFails("board 18446744073709551617 1;", 2, 6);
-        Checks.loadFails("board 1 1;trunk 0;", 2, 16);
-        Checks.loadFails("board 1 1;trunk 100;", 2, 16);
-        Checks.loadFails("board 1 1;user a 1 s 5;", 2, 17);
-        Checks.loadFails("board 6 1;user a 6 s 5;", 2, 17);
-        Checks.loadFails("board 1 1;user a 0 s 10;", 2, 21);
-        Checks.same("largest", Checks.load(new CordBoard(), "board 6 6;trunk 99;user a 5 sssss 9;"), 1);
-        Checks.same("smallest", Checks.load(new CordBoard(), "board 1 1;trunk 1;user a 0 s 0;"), 1);
+    /** "Returns the number of commands" */
+    private static void promise5PlayAnswersTheCommands() {
+        Checks.plays(Checks::used, "", 0);
+        Checks.plays(Checks::used, "     ", 0);
+        Checks.plays(Checks::used, "wait 1;", 1);
+        Checks.plays(Checks::used, "call ann dot;call bea cal urgent;trunk fay 0 urgent;wait 61;end 1;mood eve 0;", 6);
+        Checks.plays(Checks::used, Checks.repeat("wait1;", 116), 116);
     }
 
-    private static void promise4SetupNames() {
-        Checks.same("a name of 6", Checks.load(new CordBoard(), "board 1 1;user abcdef 0 s 5;"), 1);
-        Checks.loadFails("board 1 1;user abcdefg 0 s 5;", 1, 15);
-        Checks.loadFails(HEAD + "user a 1 l 5;", 4, 28);
-        Checks.loadFails(HEAD + "user a 7 x 50", 4, 28);
-        Checks.same("keywords", Checks.load(new CordBoard(),
-                "board 2 1;user user 0 ss 5;user call 0 sl 5;user end 1 s 5;user urgent 1 l 5;"
-                        + "call urgent user urgent;trunk end 0;"), CordBoard.NONE);
-        Checks.same("keywords as names", Checks.load(new CordBoard(),
-                "board 2 1;trunk 1;user user 0 ss 5;user call 0 sl 5;user end 1 s 5;user urgent 1 l 5;"
-                        + "call urgent user urgent;trunk end 0;call call urgent;"), 4);
-        Checks.loadFails(HEAD + "user b 0 s 5;", 5, 32);
-        Checks.loadFails(HEAD + "user b 0 sl 5;", 5, 32);
-        Checks.loadFails(HEAD + "user b 0 sllll 5;", 5, 32);
-        Checks.loadFails("board 1 1;user a 0 llsl 5;user b 0 ll 5;", 5, 35);
-        Checks.loadFails("board 1 1;user a 0 llsl 5;user b 0 l 5;", 5, 35);
-        Checks.same("other beginnings", Checks.load(new CordBoard(), "board 1 1;user a 0 llsl 5;user b 0 lll 5;user c 0 s 1;"), 3);
-        Checks.same("the same rings on two lines", Checks.load(new CordBoard(), HEAD + "user b 1 s 5;"), 2);
-    }
-
-    private static void promise4SetupLimits() {
-        String trunks = "board 1 1;trunk 1;trunk 2;trunk 3;trunk 4;";
-        Checks.same("4 trunks", Checks.load(new CordBoard(), trunks + "user a 0 s 5;"), 1);
-        Checks.loadFails(trunks + "trunk 5;user a 0 s 5;", 6, trunks.length());
-        Checks.loadFails(trunks + "trunk", 6, trunks.length());
-        String users = manyUsers(15);
-        Checks.same("15 users", Checks.load(new CordBoard(), users), 15);
-        Checks.same("15 users and a command", Checks.load(new CordBoard(), users + "trunk pc 0;"), CordBoard.NONE);
-        Checks.loadFails(users + "user px 0 lllll 5;", 6, users.length());
-        Checks.loadFails(users + "wait 5;user", 1, users.length() + 7);
-    }
-
-    private static String manyUsers(int users) {
-        String[] rings = {"sss", "ssl", "sls", "sll", "lss", "lsl", "lls", "lll"};
-        StringBuilder text = new StringBuilder("board 2 1;");
-        for (int user = 0; user < users; user++) {
-            text.append("user p").append((char) ('a' + user)).append(' ').append(user / 8).append(' ')
-                    .append(rings[user % 8]).append(" 5;");
+    private static void promise5PlayEmptiesTheBuffer() {
+        for (String text : new String[] {"wait 5;", "wait 0;", "wait", "", "$"}) {
+            CordBoard board = new CordBoard();
+            Checks.play(board, text);
+            Checks.same("the buffer after play of " + text, Checks.inputLength(board), 0);
+            Checks.same("a second play", board.play(), 0);
+            Checks.same("its code", board.errorCode(), 0);
         }
-        return text.toString();
     }
 
-    private static void promise5Play() {
-        CordBoard board = new CordBoard();
-        String before = Checks.showState(board);
-        Checks.same("play of nothing", board.play(), 0);
-        Checks.same("it is a change", board.undoableChanges(), 1);
-        Checks.same("play of spaces", Checks.play(board, "    "), 0);
-        Checks.same("play", Checks.play(board, "call ann dot;call bea cal urgent;trunk fay 0 urgent;wait 61;end 0;mood eve 0;"), 6);
-        Checks.same("the buffer", Checks.inputLength(board), 0);
-        Checks.same("a single change", board.undoableChanges(), 3);
-        CordBoard other = new CordBoard();
+    /** "the commands are executed one after the other as a single change (also if there is none)" */
+    private static void promise5PlayIsASingleChange() {
+        CordBoard board = Checks.played(Checks.SETUP, "call ann dot;call bea cal urgent;trunk fay 0 urgent;wait 61;"
+                + "end 0;mood eve 0;");
+        CordBoard other = Checks.loaded(Checks.SETUP);
         other.call(Checks.ANN, Checks.DOT, false);
         other.call(Checks.BEA, Checks.CAL, true);
         other.callTrunk(Checks.FAY, 0, true);
         other.waitFor(61);
         other.end(0);
         other.setCuriosity(Checks.EVE, 0);
-        Checks.same("play does what the calls do", Checks.showState(board), Checks.showState(other));
+        Checks.same("play does what the calls do", Checks.show(board), Checks.show(other));
+        Checks.same("load and play", board.undoableChanges(), 2);
+        board.play();
+        Checks.same("an empty script", board.undoableChanges(), 3);
         board.undo();
-        Checks.same("undo of a script", Checks.showState(board), before);
-        Checks.playFails(board, "wait 5;call ann dot;wait", 1, 24);
-        Checks.same("the clock after an error", board.clock(), 0);
+        Checks.same("undo of the empty script", Checks.show(board), Checks.show(other));
+        board.undo();
+        Checks.same("undo of the script", Checks.show(board), Checks.show(new CordBoard()));
     }
 
-    private static void promise5CommandErrors() {
-        CordBoard board = Checks.loaded(PAIR);
-        Checks.playFails(board, ";", 1, 0);
-        Checks.playFails(board, "hang 0;", 1, 0);
-        Checks.playFails(board, "gait 5;", 1, 0);
-        Checks.playFails(board, "WAIT 5;", 1, 0);
-        Checks.playFails(board, "calls a b;", 1, 0);
-        Checks.playFails(board, "call a b urgen;", 1, 9);
-        Checks.playFails(board, "call a b;and 0;", 1, 9);
-        Checks.playFails(board, "food a 5;", 1, 0);
-        Checks.playFails(board, "board 1 1;", 1, 0);
-        Checks.playFails(board, "user c 0 ss 5;", 1, 0);
-        Checks.playFails(board, "call", 1, 4);
-        Checks.playFails(board, "call a b", 1, 8);
-        Checks.playFails(board, "call a b b;", 1, 9);
-        Checks.playFails(board, "call a b urgent urgent;", 1, 16);
-        Checks.playFails(board, "call a b 1;", 1, 9);
-        Checks.playFails(board, "call a;", 1, 6);
-        Checks.playFails(board, "call 0 1;", 1, 5);
-        Checks.playFails(board, "call abcdefg b;", 1, 5);
-        Checks.playFails(board, "call a abcdefg;", 1, 7);
-        Checks.playFails(board, "call abcdef b;", 3, 5);
-        Checks.playFails(board, "call c b;", 3, 5);
-        Checks.playFails(board, "call a c;", 3, 7);
-        Checks.playFails(board, "call a a;", 3, 7);
-        Checks.playFails(board, "call a urgent;", 3, 7);
-        Checks.playFails(board, "trunk 0 a;", 1, 6);
-        Checks.playFails(board, "trunk a;", 1, 7);
-        Checks.playFails(board, "trunk a b;", 1, 8);
-        Checks.playFails(board, "trunk c 0;", 3, 6);
-        Checks.playFails(board, "trunk a 1;", 2, 8);
-        Checks.playFails(board, "trunk a 0 wait 5;", 1, 10);
-        Checks.playFails(board, "end a;", 1, 4);
-        Checks.playFails(board, "end 0;", 2, 4);
-        Checks.playFails(board, "call a b;end 1;", 2, 13);
-        Checks.playFails(board, "wait;", 1, 4);
-        Checks.playFails(board, "wait 5 urgent;", 1, 7);
-        Checks.playFails(board, "wait 0;", 2, 5);
-        Checks.playFails(board, "wait 10000;", 2, 5);
-        Checks.playFails(board, "wait 4294967301;", 2, 5);
-        Checks.playFails(board, "mood 0 a;", 1, 5);
-        Checks.playFails(board, "mood c 5;", 3, 5);
-        Checks.playFails(board, "mood a b;", 1, 7);
-        Checks.playFails(board, "mood a 10;", 2, 7);
-        Checks.playFails(board, "mood a 9", 1, 8);
-        Checks.same("edges", Checks.play(board, "wait 1;wait 9999;mood a 0;mood b 9;trunk b 0;"), 5);
-        Checks.playFails(Checks.loaded(HEAD), "trunk a 0;", 2, 8);
+    /** "With an error the state does not change (commands before the error have no effect)." */
+    private static void promise5PlayWithAnError() {
+        Checks.playFails(Checks::used, "wait 5;call ann dot;mood ann 9;end 1;wait", 1, 41);
+        Checks.playFails(Checks::used, "wait 5;call ann dot;mood ann 9;end 1;end 1;", 7, 42);
+        Checks.playFails(Checks::used, "wait 5;call ann dot;end 4;wait 0;", 2, 31);
+        Checks.playFails(Checks::used, "x", 1, 0);
     }
 
-    private static void promise5CommandLimits() {
-        CordBoard board = Checks.loaded(PAIR);
-        Checks.playFails(board, "call a b;end 0;end 0;", 7, 20);
-        Checks.playFails(board, "call a b;call b a;end 1;end 1;", 7, 29);
-        Checks.playFails(board, "call a b;end 0;end 0 5;", 1, 21);
-        for (int second = 0; second < 100; second++) {
-            board.waitFor(9999);
-        }
-        board.waitFor(90);
-        Checks.playFails(board, "wait 10;", 2, 5);
-        Checks.playFails(board, "wait 1;wait 9;", 2, 12);
-        Checks.same("up to the last second", Checks.play(board, "wait 2;wait 7;"), 2);
-        Checks.same("the last second", board.clock(), 999999);
-        Checks.playFails(board, "wait 1;", 2, 5);
-        for (int number = 0; number < 38; number++) {
-            board.call(0, 1, false);
-        }
-        Checks.playFails(board, "call a b;call a b;call a b;", 6, 26);
-        Checks.playFails(board, "call a b;trunk a 0;trunk b 0 urgent;", 6, 35);
-        Checks.playFails(board, "call a b;trunk a 0;call a b", 1, 27);
-        Checks.same("40 calls", Checks.play(board, "call a b;trunk a 0;wait 1;"), CordBoard.NONE);
-        Checks.same("up to 40 calls", Checks.play(board, "call a b;trunk a 0;end 39;"), 3);
-        Checks.same("calls", board.callCount(), 40);
-    }
-
-    private static void promise6And7Errors() {
+    /** "Returns the code, 1 to 7; 0 if there was no error or no such call." */
+    private static void promise6ErrorCode() {
         CordBoard board = new CordBoard();
+        Checks.same("no such call", board.errorCode(), 0);
+        String[] scripts = {"wait;", "wait 0;", "call ann ann;", "call ann dot;end 0;end 0;"};
+        int[] scriptCodes = {1, 2, 3, 7};
+        for (int index = 0; index < scripts.length; index++) {
+            Checks.play(board, scripts[index]);
+            Checks.same("code of " + scripts[index], board.errorCode(), scriptCodes[index]);
+            board.play();
+            Checks.same("code of a play without an error", board.errorCode(), 0);
+        }
+        String[] setups = {"board", "board 0 1;", "board 1 1;user a 0 s 1;call a a;", "board 1 1;user a 0 s 1;user a 0 l 1;",
+            "board 1 1;user a 0 s 1;user b 0 s 1;", "board 1 1;trunk 1;trunk 1;trunk 1;trunk 1;trunk 1;",
+            Checks.PAIR + "call a b;end 0;end 0;"};
+        for (int index = 0; index < setups.length; index++) {
+            Checks.load(board, setups[index]);
+            Checks.same("code of " + setups[index], board.errorCode(), index + 1);
+            Checks.load(board, Checks.SETUP);
+            Checks.same("code of a load without an error", board.errorCode(), 0);
+        }
+    }
+
+    /** "Returns the offset; NONE if errorCode() is 0." */
+    private static void promise7ErrorOffset() {
+        CordBoard board = new CordBoard();
+        Checks.same("no such call", board.errorOffset(), CordBoard.NONE);
+        board.load();
+        Checks.same("an empty setup", board.errorOffset(), 0);
+        board.play();
+        Checks.same("an empty script", board.errorOffset(), CordBoard.NONE);
+        Checks.play(board, "x");
+        Checks.same("the first byte", board.errorOffset(), 0);
+        Checks.play(board, Checks.repeat(" ", 699) + "x");
+        Checks.same("the last byte", board.errorOffset(), 699);
+        Checks.play(board, Checks.repeat(" ", 696) + "wait");
+        Checks.same("behind the last byte", board.errorOffset(), 700);
+        Checks.load(board, Checks.SETUP);
+        Checks.same("a load without an error", board.errorOffset(), CordBoard.NONE);
+    }
+
+    /** "the latest call of load() or play()" */
+    private static void promise6And7StayForOtherCalls() {
+        CordBoard board = Checks.used();
         Checks.load(board, "board 9 1;");
-        Checks.same("code of load", board.errorCode(), 2);
-        Checks.same("offset of load", board.errorOffset(), 6);
         board.save(0);
+        board.call(Checks.ANN, Checks.DOT, false);
+        board.end(4);
+        board.callTrunk(Checks.FAY, 0, false);
+        board.waitFor(5);
+        board.setCuriosity(0, 0);
+        board.startsIfEnded(1);
         board.restore(0);
         board.undo();
-        Checks.noIndex(board, "call(0, 9)", () -> board.call(0, 9, false));
-        Checks.same("code after other calls", board.errorCode(), 2);
-        Checks.same("offset after other calls", board.errorOffset(), 6);
-        Checks.play(board, "call ann ann;");
-        Checks.same("code of play", board.errorCode(), 3);
-        Checks.same("offset of play", board.errorOffset(), 9);
+        board.writeCalls();
+        Checks.type(board, "wait 0;");
+        Checks.same("the code", board.errorCode(), 2);
+        Checks.same("the offset", board.errorOffset(), 6);
         board.play();
-        Checks.same("code after a good play", board.errorCode(), 0);
-        Checks.same("offset after a good play", board.errorOffset(), CordBoard.NONE);
-        board.load();
-        Checks.same("code of an empty setup", board.errorCode(), 1);
-        Checks.same("offset of an empty setup", board.errorOffset(), 0);
-        Checks.load(board, Checks.SETUP);
-        Checks.same("code after a good load", board.errorCode(), 0);
-        Checks.same("offset after a good load", board.errorOffset(), CordBoard.NONE);
+        Checks.same("the code of play", board.errorCode(), 2);
+        Checks.same("the offset of play", board.errorOffset(), 5);
     }
 }

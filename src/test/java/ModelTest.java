@@ -9,14 +9,18 @@ import java.util.TreeMap;
 
 /** Long runs of calls, chosen by a fixed sequence, on the program and on the model, whose answers must agree. */
 public final class ModelTest {
-    private static final int RUNS = 1500;
-    private static final int CALLS = 500;
+    private static final int RUNS = 2500;
+    /** The document leaves free what an object answers after this many calls. */
+    private static final int CALLS = 512;
+    /** So many of them are left for a look at answers of all kinds at the end of a run. */
+    private static final int LAST_LOOK = 140;
     private static final String[] NAMES = {"ann", "bea", "cal", "dot", "eve", "fay", "call", "urgent", "wait", "x",
         "abcdef"};
     private static final List<Method> METHODS = faceMethods();
 
     private final TreeMap<String, Integer> outcomes;
     private long seed;
+    private int callsLeft = CALLS;
 
     private ModelTest(long seed, TreeMap<String, Integer> outcomes) {
         this.seed = seed;
@@ -69,21 +73,19 @@ public final class ModelTest {
             ask(board, model, named("waitFor"), new Object[] {9999}, run);
         }
         ask(board, model, named("save"), new Object[] {0}, run);
-        for (int count = late; count < CALLS; count++) {
-            if (upTo(12) == 0) {
-                count += 3 + readText(board, model, upTo(style == 2 ? 12 : 4) == 0, run);
+        while (callsLeft > LAST_LOOK) {
+            if (upTo(12) == 0 && callsLeft > LAST_LOOK + 50) {
+                readText(board, model, upTo(style == 2 ? 12 : 4) == 0, run);
             } else {
                 Method method = upTo(3) > 0 ? pickChange() : METHODS.get(upTo(METHODS.size()));
                 ask(board, model, method, arguments(method, style), run);
             }
         }
-        for (Method method : METHODS) {
-            if (method.getParameterCount() == 1 && method.getReturnType() != void.class && !changes(method)) {
-                for (int argument = -1; argument <= 41; argument++) {
-                    ask(board, model, method, new Object[] {argument}, run);
-                }
-            } else if (method.getParameterCount() == 0 && !changes(method)) {
-                ask(board, model, method, new Object[0], run);
+        for (int index = run; callsLeft > 0; index++) {
+            Method method = METHODS.get(index % METHODS.size());
+            if (!changes(method)) {
+                ask(board, model, method, method.getParameterCount() == 1 ? new Object[] {upTo(43) - 1}
+                        : arguments(method, style), run);
             }
         }
     }
@@ -138,6 +140,7 @@ public final class ModelTest {
 
     private void ask(CordBoard board, Model model, Method method, Object[] arguments, int run)
             throws ReflectiveOperationException {
+        callsLeft--;
         Method twin = Model.class.getDeclaredMethod(method.getName(), method.getParameterTypes());
         String due = answer(twin, model, arguments);
         String got = answer(method, board, arguments);
@@ -154,9 +157,8 @@ public final class ModelTest {
         }
     }
 
-    private int readText(CordBoard board, Model model, boolean isSetup, int run)
-            throws ReflectiveOperationException {
-        String text = isSetup ? setup() : script(board, 1 + upTo(8));
+    private void readText(CordBoard board, Model model, boolean isSetup, int run) {
+        String text = isSetup ? setup() : script(model, 1 + upTo(8));
         if (upTo(4) == 0) {
             text = spoil(text);
         }
@@ -180,7 +182,7 @@ public final class ModelTest {
         Checks.same("the code of " + what, board.errorCode(), model.errorCode());
         Checks.same("the offset of " + what, board.errorOffset(), model.errorOffset());
         outcomes.merge((isSetup ? "load" : "play") + " code " + model.errorCode(), 1, Integer::sum);
-        return text.length() / 20;
+        callsLeft -= 7 + (text.length() + 19) / 20;
     }
 
     private String setup() {
@@ -215,7 +217,7 @@ public final class ModelTest {
         return first[user % 3] + (user % 18 < 9 ? "s" : "l") + (user % 2 == 0 ? "" : "l");
     }
 
-    private String script(CordBoard board, int commands) {
+    private String script(Model board, int commands) {
         StringBuilder text = new StringBuilder();
         int many = upTo(10) == 0 ? 40 : commands;
         for (int command = 0; command < many; command++) {
@@ -246,8 +248,8 @@ public final class ModelTest {
 
     /** Puts in, takes out or exchanges a byte or a token. */
     private String spoil(String text) {
-        String[] pieces = {" ", ";", "a", "0", "99999999999", " user ", " call ", " trunk ", " urgent ", "$", "" + (char) 200,
-            " end ", "abcdefg", " board "};
+        String[] pieces = {" ", ";", "a", "0", "99999999999", " user ", " call ", " trunk ", " urgent ", "$",
+            "" + (char) 200, " end ", "abcdefg", " board "};
         int place = upTo(text.length() + 1);
         int removed = Math.min(text.length() - place, upTo(4));
         String piece = upTo(3) == 0 ? "" : pieces[upTo(pieces.length)];
