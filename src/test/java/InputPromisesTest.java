@@ -9,6 +9,7 @@ public final class InputPromisesTest {
         promise1NewObject();
         promise1FirstState();
         promise1ObjectsAreApart();
+        promise1FiveHundredTwelveCalls();
         promise2AppendInOrder();
         promise2AppendAnyByte();
         promise2AppendUpTo700();
@@ -84,6 +85,26 @@ public final class InputPromisesTest {
         two.waitFor(3);
         Checks.same("the first object", one.clock(), 115);
         Checks.same("its input", one.truncateInput(7), 7);
+    }
+
+    /** "An object is used for at most 512 calls after it has been made": the last of them still answers. */
+    private static void promise1FiveHundredTwelveCalls() {
+        CordBoard waiting = new CordBoard();
+        for (int count = 1; count < 512; count++) {
+            Checks.same("waitFor", waiting.waitFor(1), count);
+        }
+        Checks.same("the 512th call", waiting.undo(), 7);
+        CordBoard loading = new CordBoard();
+        for (int count = 0; count < 511; count++) {
+            Checks.same("load of nothing", loading.load(), CordBoard.NONE);
+        }
+        Checks.same("the 512th call", loading.call(Checks.FAY, Checks.ANN, true), 0);
+        CordBoard restoring = Checks.used();
+        int changes = restoring.undoableChanges();
+        for (int count = 0; count < 490; count++) {
+            Checks.same("restore", restoring.restore(1), 0);
+        }
+        Checks.same("changes", restoring.undoableChanges(), changes);
     }
 
     /** "the four bytes of each parameter, the most significant byte first" */
