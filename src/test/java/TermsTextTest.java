@@ -399,6 +399,10 @@ public final class TermsTextTest {
         // 1 before 6: "user" and "trunk" where the grammar does not allow them.
         String crowd = Checks.crowd(15, 1, 5);
         Checks.loadFails(crowd + "wait 5;user px 0 l 5;", 1, crowd.length() + 7);
+        Checks.loadFails(crowd + "user px 0 l 5;", 6, crowd.length());
+        Checks.playFails(() -> Checks.loaded(crowd), "user px 0 l 5;", 1, 0);
+        String trunks = "board 1 1;" + Checks.repeat("trunk 1;", 4);
+        Checks.loadFails(trunks + "user a 0 s 5;trunk 1;", 1, trunks.length() + 19);
         // 1 before 7: what stands in place of the semicolon of "end".
         scriptFails("call a b;end 0;end 0 0;", 1, 21);
         scriptFails("call a b;end 0;end 0", 1, 20);
@@ -484,6 +488,19 @@ public final class TermsTextTest {
         Checks.plays(() -> Checks.late(999990), "wait 4;wait 5;", 2);
         Checks.playFails(() -> Checks.late(999990), "wait 4;wait 6;", 2, 12);
         Checks.playFails(() -> Checks.late(999990), "wait 10;", 2, 5);
+        // It is the number that is wrong, so what stands behind it is not looked at.
+        Checks.playFails(() -> Checks.late(999990), "wait 10", 2, 5);
+        Checks.playFails(() -> Checks.late(999990), "wait 10 a;", 2, 5);
+        Checks.playFails(() -> Checks.late(999999), "wait 1;", 2, 5);
+        Checks.playFails(() -> Checks.late(999999), "wait a;", 1, 5);
+        // The clock of a new board is 0 again.
+        Checks.plays(() -> loadedLate(), "wait 9999;", 1);
+    }
+
+    private static CordBoard loadedLate() {
+        CordBoard board = Checks.late(999999);
+        Checks.load(board, Checks.PAIR);
+        return board;
     }
 
     /** "Code 3, unknown name: .. the second name of "call", if it is the first one." */
